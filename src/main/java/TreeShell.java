@@ -389,12 +389,12 @@ public final class TreeShell {
     /** The words of one command, without their quotes and with STATUS put in. */
     private static final class Words {
         // Every $? of a line, two characters, becomes three at the most.
-        final Text letters = new Text(MOST_TYPED / 2 * 3);
+        final Text joined = new Text(MOST_TYPED / 2 * 3);
         final int[] ends = new int[MOST_TYPED];
         int count = 0;
 
         void clear() {
-            letters.clear();
+            joined.clear();
             count = 0;
         }
 
@@ -409,13 +409,13 @@ public final class TreeShell {
                 if (typed[i] == '\'') {
                     quoted = !quoted;
                 } else if (typed[i] == '$' && !quoted && i + 1 < end && typed[i + 1] == '?') {
-                    letters.addNumber(status);
+                    joined.addNumber(status);
                     i++;
                 } else {
-                    letters.add(typed[i]);
+                    joined.add(typed[i]);
                 }
             }
-            ends[count] = letters.size;
+            ends[count] = joined.size;
             count++;
         }
 
@@ -433,7 +433,7 @@ public final class TreeShell {
                 return false;
             }
             for (int i = 0; i < value.length(); i++) {
-                if (letters.letters[start + i] != value.charAt(i)) {
+                if (joined.letters[start + i] != value.charAt(i)) {
                     return false;
                 }
             }
@@ -477,7 +477,7 @@ public final class TreeShell {
         }
 
         Node follow(Words words, int word) {
-            char[] letters = words.letters.letters;
+            char[] letters = words.joined.letters;
             int start = words.startOf(word);
             int end = words.endOf(word);
             found = start < end && letters[start] == '/' ? root : here;
@@ -541,10 +541,11 @@ public final class TreeShell {
         }
 
         /** Makes a node at the vacant path followed last; null if there are NODES already. */
-        Node make(Text content) {
+        Node make(boolean file) {
             if (vacantIn == null || count >= mostNodes) {
                 return null;
             }
+            Text content = file ? new Text(mostChars) : null;
             newest = new Node(vacantIn, vacantName, content, newest);
             count++;
             return newest;
@@ -604,7 +605,7 @@ public final class TreeShell {
                 if (word > first) {
                     output.add(' ');
                 }
-                output.addPiece(words.letters, words.startOf(word), words.endOf(word));
+                output.addPiece(words.joined, words.startOf(word), words.endOf(word));
             }
             if (!bare) {
                 output.add('\n');
@@ -641,7 +642,8 @@ public final class TreeShell {
             if (words.count > 2) {
                 return MISUSED;
             }
-            Text source = words.count == 1 ? input : contentOf(tree.follow(words, 1));
+            boolean fromInput = words.count == 1;
+            Text source = fromInput ? input : contentOf(tree.follow(words, 1));
             if (source == null) {
                 return FAILED;
             }
@@ -661,7 +663,7 @@ public final class TreeShell {
             output.add(' ');
             output.addNumber(source.size);
             output.add('\n');
-            if (source == input) {
+            if (fromInput) {
                 input.clear();
             }
             return 0;
@@ -696,7 +698,7 @@ public final class TreeShell {
         }
 
         private boolean matches(Text source, int from, int to, int pattern) {
-            char[] letters = words.letters.letters;
+            char[] letters = words.joined.letters;
             int first = words.startOf(pattern);
             int end = words.endOf(pattern);
             boolean atStart = first < end && letters[first] == '^';
@@ -716,7 +718,7 @@ public final class TreeShell {
 
         private boolean fits(Text source, int place, int first, int end) {
             for (int i = first; i < end; i++) {
-                char wanted = words.letters.letters[i];
+                char wanted = words.joined.letters[i];
                 if (wanted != '.' && wanted != source.letters[place + i - first]) {
                     return false;
                 }
@@ -757,7 +759,7 @@ public final class TreeShell {
             if (tree.vacantIn == null) {
                 return FAILED;
             }
-            return tree.make(null) == null ? SPACE : 0;
+            return tree.make(false) == null ? SPACE : 0;
         }
 
         private int cd() {
@@ -957,7 +959,7 @@ public final class TreeShell {
         private int redirectOutput(Level level, boolean emptied) {
             Node file = tree.found;
             if (tree.vacantIn != null) {
-                file = tree.make(new Text(tree.mostChars));
+                file = tree.make(true);
                 if (file == null) {
                     return SPACE;
                 }
