@@ -13,6 +13,8 @@ public final class ModelTest {
         "x", "^x", "x$", "^x$", "''", "^", "$", "^$", ".", "..", "a.b", "^.$", "z.z", "1", "-v", "$$", "^^", "y",
     };
     private static final String[] NAMES = {"nosuch", "$?", "''", "'echo'", "ech", "cdd"};
+    // Eight calls to type a line, thirteen for its output, and one for each other thing asked.
+    private static final int CALLS_FOR_A_LINE = 30;
     private static final String NOISE = ";&|<>()!' $?abe-n/.";
 
     private final Random random;
@@ -29,11 +31,11 @@ public final class ModelTest {
     }
 
     public static void main(String[] args) {
-        int seeds = args.length > 0 ? Integer.parseInt(args[0]) : 3000;
+        int seeds = args.length > 0 ? Integer.parseInt(args[0]) : 4000;
         int[] seen = new int[129];
         for (int seed = 0; seed < seeds; seed++) {
             ModelTest test = new ModelTest(seed);
-            for (int i = 0; i < 40; i++) {
+            while (test.probe.callsLeft() >= CALLS_FOR_A_LINE) {
                 seen[test.step(seed) + 1]++;
             }
         }
@@ -47,16 +49,16 @@ public final class ModelTest {
         String line = line();
         String what = "seed " + seed + " [" + line + "] ";
         Probe.due(what + "type", probe.typeAll(line), model.type(line));
-        Probe.due(what + "typed()", probe.shell.typed(), model.line.length());
-        Probe.due(what + "check()", probe.shell.check(), model.check());
-        int answer = probe.shell.enter();
+        Probe.due(what + "typed()", probe.typed(), model.line.length());
+        Probe.due(what + "check()", probe.check(), model.check());
+        int answer = probe.enter();
         Probe.due(what + "enter()", answer, model.enter());
         Probe.due(what + "output", probe.output(), model.output);
-        Probe.due(what + "status()", probe.shell.status(), model.status);
-        Probe.due(what + "ran()", probe.shell.ran(), model.ran);
-        Probe.due(what + "nodes()", probe.shell.nodes(), model.nodes);
-        Probe.due(what + "chars()", probe.shell.chars(), model.chars());
-        Probe.due(what + "depth()", probe.shell.depth(), model.depth());
+        Probe.due(what + "status()", probe.status(), model.status);
+        Probe.due(what + "ran()", probe.ran(), model.ran);
+        Probe.due(what + "nodes()", probe.nodes(), model.nodes);
+        Probe.due(what + "chars()", probe.chars(), model.chars());
+        Probe.due(what + "depth()", probe.depth(), model.depth());
         return answer;
     }
 
