@@ -204,6 +204,9 @@ public final class GrepTest {
         matches("^", "", true);
         matches("$", "abc", true);
         matches("^$", "", true);
+        Probe probe = Probe.roomy();
+        probe.does("(echo ab;echo;echo b)>f");
+        probe.runs("grep ^b f;grep '' f;grep b$ f;grep '' f", 0, "b\nab\n\nb\nab\nb\nab\n\nb\n");
     }
 
     private static void anyCharacter() {

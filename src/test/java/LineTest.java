@@ -53,6 +53,13 @@ public final class LineTest {
         }
         Probe probe = Probe.roomy();
         probe.typeAll("ab");
+        for (long code : new long[] {1, 10, 31, 127, 128, 255}) {
+            for (int shift = 0; shift < 64; shift += 8) {
+                types(probe, Probe.pack("cccccccc") & ~(255L << shift) | code << shift, false, 2);
+            }
+            types(probe, 0x6300000000000000L | code, false, 2);
+            types(probe, code << 56 | 0x63, false, 2);
+        }
         types(probe, -1, false, 2);
         types(probe, Long.MIN_VALUE, false, 2);
         types(probe, Long.MAX_VALUE, false, 2);
@@ -64,6 +71,7 @@ public final class LineTest {
         Probe.due("59 characters", probe.typeAll("echo " + "a".repeat(54)), true);
         types(probe, Probe.pack("bbbbbbbb"), false, 59);
         types(probe, Probe.pack("bbbbbb"), false, 59);
+        types(probe, 0x6262620062620062L, false, 59);
         types(probe, 0x6262006262000062L, true, 64);
         types(probe, 'c', false, 64);
         types(probe, 0x6300000000000000L, false, 64);

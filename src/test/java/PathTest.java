@@ -127,6 +127,7 @@ public final class PathTest {
         probe.does("cd a/b");
         probe.runs("cat f /f ./f //f '/f'", 0, "three\none\nthree\none\none\n");
         probe.runs("ls '';ls /;cat ''f", 0, "f\na/\nf\nthree\n");
+        probe.runs("ls /;ls '';ls /a;ls ''", 0, "a/\nf\nf\nb/\nf\nf\n");
         probe.does("cd ''");
         Probe.due("depth() after cd ''", probe.depth(), 2);
         probe.does("mkdir x;mkdir /y");

@@ -45,6 +45,9 @@ public final class RunningTest {
         Probe.sentence("another $ is plain");
         probe.runs("nosuch;echo $ $a $$ ? a$ $ ? $", 0, "$ $a $$ ? a$ $ ? $\n");
         probe.runs("nosuch;echo -n $", 0, "$");
+        probe.runs("nosuch;echo $?", 0, "127\n");
+        probe.runs("nosuch;echo $", 0, "$\n");
+        probe.runs("echo " + "a".repeat(58) + "$", 0, "a".repeat(58) + "$\n");
     }
 
     private static void statusWhenTheCommandComes() {
