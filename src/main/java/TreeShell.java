@@ -259,8 +259,7 @@ public final class TreeShell {
         }
 
         boolean isRedirection(int i) {
-            int kind = kindAt(i);
-            return kind >= READ && kind <= APPEND;
+            return i >= 0 && i < count && kinds[i] >= READ && kinds[i] <= APPEND;
         }
 
         int countWords() {
