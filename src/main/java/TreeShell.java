@@ -821,7 +821,7 @@ public final class TreeShell {
         }
 
         /** False if the line must end by SPACE. */
-        boolean runList(int from, int to, int open, Text input) {
+        private boolean runList(int from, int to, int open, Text input) {
             if (open > MOST_OPEN) {
                 return false;
             }
